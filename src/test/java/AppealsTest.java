@@ -7,6 +7,7 @@ final class AppealsTest extends Checks {
         tolerance();
         settingsAsTheyAre();
         contentIsKept();
+        greatNumbers();
         room();
         grades();
         nothingPoured();
@@ -111,6 +112,36 @@ final class AppealsTest extends Checks {
         due("still", mill.lot(0, 10), 0);
         due("second oil by the yield then", mill.appeal(0), 13);
         due("due", mill.lot(0, 6), 300);
+    }
+
+    private static void greatNumbers() {
+        OliveMill mill = millWith(1, 20000);
+        mill.setYield(0, 400);
+        mill.set(0, 0);
+        mill.set(1, 1000);
+        mill.set(6, 7);
+        mill.addLot(0, 0, 2000, 0, 993);
+        mill.addLot(0, 0, 2000, 0, 992);
+        mill.press(0, false);
+        mill.press(0, false);
+        // 8000 * 993 / 1000 = 7944
+        due("just as much as the tolerance leaves", mill.lot(0, 10), 2);
+        due("less", mill.lot(1, 10), 0);
+        mill.undo();
+        mill.set(1, 999);
+        mill.press(0, false);
+        mill.set(6, 8);
+        // first oil 7936 * 999 / 1000 = 7928; 8000 * 999 / 1000 = 7992, 7992 * 992 / 1000 = 7928
+        due("first oil", mill.lot(1, 7), 7928);
+        due("just as much again", mill.lot(1, 10), 2);
+        mill.set(6, 7);
+        due("less", mill.lot(1, 10), 0);
+        mill.set(1, 500);
+        mill.addLot(0, 0, 2000, 0, 500);
+        mill.press(0, false);
+        mill.set(1, 1000);
+        mill.set(2, 999);
+        due("second oil of 2000 left", mill.appeal(2), 1998);
     }
 
     private static void room() {

@@ -127,6 +127,25 @@ final class OilTest extends Checks {
         due("undone as one call", mill.count(7), 101);
         mill.set(3, 0);
         due("without sediment", mill.pass(100), 0);
+        OliveMill great = plainMillWith(1, 20000);
+        fill(great, 0, 0, 1980, 0);
+        great.set(3, 50);
+        due("1980 * 50 / 1000", great.pass(1), 99);
+        great.set(3, 37);
+        // 1881 * 37 / 1000 = 69.597
+        due("1881 * 37 / 1000", great.pass(1), 69);
+        for (int call = 0; call < 4; call++) {
+            great.undo();
+        }
+        for (int lot = 0; lot < 9; lot++) {
+            fill(great, 0, 0, 2000, 0);
+        }
+        due("19980 * 2 / 1000", great.pass(1), 39);
+        due("19941 * 2 / 1000", great.oilIn(0, 1), 19941 - 39);
+        great.set(3, 50);
+        due("19941 * 50 / 1000", great.pass(1), 997);
+        // 18944 * 50 / 1000 = 947.2, with 999 it would be 948.1
+        due("18944 * 50 / 1000", great.pass(1), 947);
     }
 
     private static void promise20() {

@@ -7,6 +7,8 @@ final class PressingTest extends Checks {
         promise7WayLikeFirst();
         promise7NothingPoured();
         promise7SettingsAsTheyAre();
+        promise7OneDecilitre();
+        promise7GreatNumbers();
         promise7Refusals();
         promise8();
         promise24();
@@ -124,6 +126,51 @@ final class PressingTest extends Checks {
         mill.set(1, 1000);
         due("due by the yield then", mill.lot(0, 6), 200);
         due("first oil by the setting then", mill.lot(0, 7), 150);
+    }
+
+    /** A residue, a lot and a tank of 1 are as good as greater ones. */
+    private static void promise7OneDecilitre() {
+        OliveMill mill = plainMillWith(1, 100, 100);
+        mill.set(0, 1);
+        mill.addLot(0, 3, 1, 0, 1000);
+        mill.addLot(0, 2, 1, 0, 1000);
+        mill.addLot(0, 3, 1, 0, 1000);
+        mill.press(0, false);
+        dueResidue("a residue of 1", mill, 3, 1);
+        mill.set(5, 1);
+        due("way 1 with a residue of 1", mill.next(0), 2);
+        mill.set(5, 2);
+        mill.press(0, false);
+        dueTank("way 2 with a residue of 1", mill, 0, 0, 0, 0, 0, 1, 0);
+        dueResidue("another residue of 1", mill, 2, 1);
+        mill.set(5, 0);
+        mill.press(0, false);
+        due("cleaning of a residue of 1", mill.variety(2, 6), 1);
+        due("cleanings", mill.count(6), 1);
+        mill.set(0, 0);
+        mill.addLot(0, 3, 1, 50, 500);
+        mill.addLot(0, 3, 1, 50, 1000);
+        due("the residue of 1 is poured", mill.next(2), 1);
+        due("a tank of 1, of another grade", mill.whyNot(0, false), 3);
+        notNow(mill, "press of 1 into another grade", () -> mill.press(0, false));
+        mill.press(1, false);
+        dueTank("a tank of 1", mill, 1, 2, 0, 0, 0, 1, 0);
+    }
+
+    private static void promise7GreatNumbers() {
+        OliveMill mill = millWith(1, 20000);
+        mill.setYield(4, 400);
+        mill.set(0, 0);
+        mill.set(1, 1000);
+        mill.addLot(0, 4, 2000, 0, 1500);
+        mill.press(0, false);
+        due("the greatest due", mill.lot(0, 6), 8000);
+        due("the greatest first oil", mill.lot(0, 7), 12000);
+        mill.set(1, 999);
+        mill.addLot(0, 4, 1999, 0, 501);
+        mill.press(0, false);
+        // 7996, 7996 * 501 / 1000 = 4005, 4005 * 999 / 1000 = 4000
+        due("first oil rounded down", mill.lot(1, 7), 4000);
     }
 
     private static void promise7Refusals() {

@@ -114,6 +114,10 @@ final class TextsTest extends Checks {
         mill.press(0, true);
         due("a truth that was told", mill.lot(4, 7), 35);
         due("the truth is 1000 again", mill.lot(5, 7), 36);
+        type(mill, "4d2000/7");
+        mill.addSlips();
+        mill.press(0, true);
+        due("the truth is just 1000", mill.lot(6, 7), 8000);
     }
 
     private static void promise16Stops() {
