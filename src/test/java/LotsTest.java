@@ -54,6 +54,26 @@ final class LotsTest extends Checks {
         mill.appeal(0);
         dueGrower("after a lost appeal", mill, 1, 90, 2, 1, 30, 1, 1);
         dueGrower("the other one", mill, 0, 0, 1, 1, 0, 0, 0);
+        OliveMill full = millWith(8, 20000);
+        for (int grower = 0; grower < 8; grower++) {
+            full.addLot(grower, 4, 100 * (grower + 1), 5, 500);
+        }
+        for (int grower = 0; grower < 8; grower++) {
+            full.press(0, false);
+            full.appeal(grower);
+        }
+        for (int grower = 0; grower < 8; grower++) {
+            // Of each hundred kilos: due 160, content 80, first oil 68; of the 12 that are left, 600 of 1000.
+            int second = 12 * (grower + 1) * 600 / 1000;
+            int lost = grower < 2 ? 1 : 0;
+            dueGrower("of eight growers", full, grower, 68 * (grower + 1) + second - 20 * lost, 1, 0, 0, 1, lost);
+        }
+        full.set(4, 500);
+        full.addLot(7, 4, 100, 5, 500);
+        full.press(0, false);
+        full.appeal(8);
+        dueGrower("the last grower", full, 7, 601 + 75 - 500, 2, 0, 0, 2, 1);
+        due("the grower of the first lot", full.lot(0, 0), 0);
         noSuch(mill, "grower(-1, 0)", () -> mill.grower(-1, 0));
         noSuch(mill, "grower(2, 0)", () -> mill.grower(2, 0));
         noSuch(mill, "grower(2, 6)", () -> mill.grower(2, 6));

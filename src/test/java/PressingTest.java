@@ -293,6 +293,11 @@ final class PressingTest extends Checks {
         due("way 1 with a greater residue", mill.lossBy(1), 35 + 50);
         due("nothing is changed", mill.count(2), 4);
         due("no cleaning", mill.count(6), 0);
+        OliveMill full = millWith(1);
+        for (int lot = 0; lot < 40; lot++) {
+            full.addLot(0, lot < 39 ? 0 : 1, 20, 8, 1000);
+        }
+        due("the fortieth lot counts too", full.lossBy(0), 10);
     }
 
     private static void promise29() {
