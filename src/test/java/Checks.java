@@ -6,22 +6,38 @@ class Checks {
         long answer();
     }
 
+    interface CallWith {
+        long answer(int value);
+    }
+
+    private static final int MOST_TOLD = 100;
     private static int made = 0;
     private static int wrong = 0;
+    /** What the checks are about; it is told ahead of each wrong one. */
+    static String about = "";
+
+    static int checksMade() {
+        return made;
+    }
 
     static void due(String what, long got, long want) {
         made++;
         if (got != want) {
-            wrong++;
-            System.out.println(what + " answered " + got + ", due is " + want);
+            tellWrong(what, Long.toString(got), Long.toString(want));
         }
     }
 
     static void dueText(String what, String got, String want) {
         made++;
         if (!got.equals(want)) {
-            wrong++;
-            System.out.println(what + " answered " + got + ", due is " + want);
+            tellWrong(what, got, want);
+        }
+    }
+
+    private static void tellWrong(String what, String got, String want) {
+        wrong++;
+        if (wrong <= MOST_TOLD) {
+            System.out.println(about + what + " answered " + got + ", due is " + want);
         }
     }
 
@@ -42,6 +58,23 @@ class Checks {
 
     static void notNow(OliveMill mill, String what, Call call) {
         refuses(mill, IllegalStateException.class, what, call);
+    }
+
+    /** The call throws this with the values next to the range, and with the outermost ones. */
+    static void refusesOutside(OliveMill mill, Class<? extends RuntimeException> kind, String what, int least, int most,
+            CallWith call) {
+        int[] outside = {least - 1, most + 1, Integer.MIN_VALUE, Integer.MAX_VALUE};
+        for (int value : outside) {
+            refuses(mill, kind, what + " " + value, () -> call.answer(value));
+        }
+    }
+
+    static void noSuchOutside(OliveMill mill, String what, int least, int most, CallWith call) {
+        refusesOutside(mill, IndexOutOfBoundsException.class, what, least, most, call);
+    }
+
+    static void outOfRangeOutside(OliveMill mill, String what, int least, int most, CallWith call) {
+        refusesOutside(mill, IllegalArgumentException.class, what, least, most, call);
     }
 
     static String answerOf(Call call) {
@@ -100,5 +133,58 @@ class Checks {
             all += oils[variety];
         }
         due(when + ": oil in tank " + tank, mill.tank(tank, 1), all);
+    }
+
+    static void dueGrower(String when, OliveMill mill, int grower, int... properties) {
+        for (int what = 0; what < properties.length; what++) {
+            due(when + ": grower(" + grower + ", " + what + ")", mill.grower(grower, what), properties[what]);
+        }
+    }
+
+    static void dueLot(String when, OliveMill mill, int lot, int... properties) {
+        for (int what = 0; what < properties.length; what++) {
+            due(when + ": lot(" + lot + ", " + what + ")", mill.lot(lot, what), properties[what]);
+        }
+    }
+
+    static void dueVariety(String when, OliveMill mill, int variety, int... numbers) {
+        for (int what = 0; what < numbers.length; what++) {
+            due(when + ": variety(" + variety + ", " + what + ")", mill.variety(variety, what), numbers[what]);
+        }
+    }
+
+    static void dueCounts(String when, OliveMill mill, int... numbers) {
+        for (int what = 0; what < numbers.length; what++) {
+            due(when + ": count(" + what + ")", mill.count(what), numbers[what]);
+        }
+    }
+
+    static void dueNext(String when, OliveMill mill, int... numbers) {
+        for (int what = 0; what < numbers.length; what++) {
+            due(when + ": next(" + what + ")", mill.next(what), numbers[what]);
+        }
+    }
+
+    static void dueResidue(String when, OliveMill mill, int variety, int residue) {
+        due(when + ": variety of the residue", mill.count(4), variety);
+        due(when + ": residue", mill.count(5), residue);
+        for (int some = 0; some < 5; some++) {
+            due(when + ": residue of variety " + some, mill.variety(some, 3), some == variety ? residue : 0);
+        }
+    }
+
+    /** The call saves one state, and undo brings back all that the digest shows. */
+    static void undoes(OliveMill mill, String what, Call call) {
+        if (mill.count(12) == 6) {
+            // The oldest state is dropped now, so that the digests of before and after are of like numbers.
+            mill.clean();
+            mill.undo();
+        }
+        int saved = mill.count(12);
+        long before = mill.digest();
+        call.answer();
+        due("saved states after " + what, mill.count(12), saved + 1);
+        due("undo of " + what, mill.undo(), saved);
+        due("digest after undo of " + what, mill.digest(), before);
     }
 }

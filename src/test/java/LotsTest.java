@@ -81,12 +81,6 @@ final class LotsTest extends Checks {
         outOfRange(mill, "grower(0, 6)", () -> mill.grower(0, 6));
     }
 
-    private static void dueGrower(String when, OliveMill mill, int grower, int... properties) {
-        for (int what = 0; what < properties.length; what++) {
-            due(when + ": grower(" + grower + ", " + what + ")", mill.grower(grower, what), properties[what]);
-        }
-    }
-
     private static void promise19() {
         OliveMill mill = millWith(3, 100, 3000);
         mill.addLot(2, 3, 333, 17, 777);
@@ -102,12 +96,6 @@ final class LotsTest extends Checks {
         noSuch(mill, "lot(1, 11)", () -> mill.lot(1, 11));
         outOfRange(mill, "lot(0, -1)", () -> mill.lot(0, -1));
         outOfRange(mill, "lot(0, 11)", () -> mill.lot(0, 11));
-    }
-
-    private static void dueLot(String when, OliveMill mill, int lot, int... properties) {
-        for (int what = 0; what < properties.length; what++) {
-            due(when + ": lot(" + lot + ", " + what + ")", mill.lot(lot, what), properties[what]);
-        }
     }
 
     private static void promise19Grades() {

@@ -18,11 +18,6 @@ final class PressingTest extends Checks {
         end();
     }
 
-    private static void dueResidue(String when, OliveMill mill, int variety, int residue) {
-        due(when + ": variety of the residue", mill.count(4), variety);
-        due(when + ": residue", mill.count(5), residue);
-    }
-
     private static void promise7FirstLot() {
         OliveMill mill = millWith(1, 500);
         mill.addLot(0, 1, 33, 8, 777);
@@ -239,12 +234,6 @@ final class PressingTest extends Checks {
         carrier.press(0, false);
         // 154 first oil, 10 kept, 10 of the residue
         due("the residue needs room too", carrier.whyNot(1, true), 2);
-    }
-
-    private static void dueNext(String when, OliveMill mill, int... numbers) {
-        for (int what = 0; what < numbers.length; what++) {
-            due(when + ": next(" + what + ")", mill.next(what), numbers[what]);
-        }
     }
 
     private static void promise25() {

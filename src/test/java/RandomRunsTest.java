@@ -2,8 +2,9 @@ import java.util.Random;
 
 /** Runs of random calls, with the same seeds each time, of OliveMill and PlainMill side by side. */
 final class RandomRunsTest extends Checks {
-    private static final int RUNS = 400;
-    private static final int CALLS = 400;
+    private static final int RUNS = 1200;
+    /** So that a run stays within the 512 calls of an object: a text has up to 30, the balance at the end has 30. */
+    private static final int CALLS = 440;
     private static final String[] TEXTS = {"0a12/5", "1b200/9*700", "2c999/21*500;0a1/0", "7e2000/50*1500", "1a30/20;1a30/8",
         "0d100/0*550;1d100/9*600;2d100/30*700", "0a1/51", "0a2001/1", "3b70/7*499", "0c5", ";", "0a1/5;", "4e44/4*1000"};
 
@@ -12,6 +13,7 @@ final class RandomRunsTest extends Checks {
     private final PlainMill plain = new PlainMill();
     private final boolean careful;
     private String history = "";
+    private int calls = 0;
     private boolean differs = false;
 
     private RandomRunsTest(int seed) {
@@ -30,19 +32,35 @@ final class RandomRunsTest extends Checks {
     }
 
     private void go(int seed) {
-        int looks = 0;
-        for (int call = 0; call < CALLS && !differs; call++) {
-            step(call);
-            check("lookAtOne", lookAtMill(looks), lookAtPlain(looks));
-            looks++;
-            checkState();
+        if (seed % 5 == 3) {
+            crowd();
         }
+        for (int step = 0; calls < CALLS && !differs; step++) {
+            step(step);
+            check("lookAtOne", lookAtMill(step), lookAtPlain(step));
+            check("digest()", mill::digest, this::digestOfPlain);
+        }
+        checkBalance();
         if (differs) {
             System.out.println("run " + seed + ":" + history);
         }
     }
 
+    /** So that some runs come to the most growers, lots and tanks. */
+    private void crowd() {
+        for (int number = 0; number < 7; number++) {
+            check("addGrower()", mill::addGrower, plain::addGrower);
+        }
+        for (int number = 0; number < 4; number++) {
+            check("addTank(900)", () -> mill.addTank(900), () -> plain.addTank(900));
+        }
+        for (int number = 0; number < 30; number++) {
+            addLot();
+        }
+    }
+
     private void check(String call, Call ofMill, Call ofPlain) {
+        calls++;
         String got = answerOf(ofMill);
         String want = answerOf(ofPlain);
         history = history + "\n  " + call + " -> " + got;
@@ -61,11 +79,11 @@ final class RandomRunsTest extends Checks {
     }
 
     private int someTank() {
-        return some(0, Math.max(0, mill.count(3) - 1));
+        return some(0, Math.max(0, plain.count(3) - 1));
     }
 
     private int someGrower() {
-        return some(0, Math.max(0, mill.count(0) - 1));
+        return some(0, Math.max(0, plain.count(0) - 1));
     }
 
     private int someKilos() {
@@ -74,13 +92,13 @@ final class RandomRunsTest extends Checks {
     }
 
     private int someOil(int tank) {
-        int there = tank >= 0 && tank < mill.count(3) ? mill.tank(tank, 1) : 1;
+        int there = tank >= 0 && tank < plain.count(3) ? plain.tank(tank, 1) : 1;
         int kind = random.nextInt(10);
         return kind < 7 ? some(1, Math.max(1, there)) : kind < 9 ? some(1, 30) : some(1, 20000);
     }
 
-    private void step(int call) {
-        int kind = call < 12 ? random.nextInt(30) : random.nextInt(100);
+    private void step(int number) {
+        int kind = number < 12 ? random.nextInt(30) : random.nextInt(100);
         boolean mixes = random.nextInt(3) > 0;
         if (kind < 4) {
             check("addGrower()", mill::addGrower, plain::addGrower);
@@ -94,7 +112,7 @@ final class RandomRunsTest extends Checks {
         } else if (kind < 40) {
             changeSetting();
         } else if (kind < 60) {
-            int best = mill.bestTank();
+            int best = plain.bestTank();
             int tank = best >= 0 && random.nextBoolean() ? best : someTank();
             check("press(" + tank + ", " + mixes + ")", () -> mill.press(tank, mixes), () -> plain.press(tank, mixes));
         } else if (kind < 63) {
@@ -163,12 +181,12 @@ final class RandomRunsTest extends Checks {
     }
 
     private int someLotToAppealFor() {
-        for (int lot = 0; lot < mill.count(1); lot++) {
-            if (mill.lot(lot, 10) == 0 && random.nextInt(3) > 0) {
+        for (int lot = 0; lot < plain.count(1); lot++) {
+            if (plain.lot(lot, 10) == 0 && random.nextInt(3) > 0) {
                 return lot;
             }
         }
-        return some(0, Math.max(0, mill.count(1) - 1));
+        return some(0, Math.max(0, plain.count(1) - 1));
     }
 
     private int[] lookedAt = new int[4];
@@ -193,9 +211,8 @@ final class RandomRunsTest extends Checks {
         }
     }
 
-    private void checkState() {
-        check("digest()", mill::digest, this::digestOfPlain);
-        for (int variety = 0; variety < 5 && !differs; variety++) {
+    private void checkBalance() {
+        for (int variety = 0; variety < 5; variety++) {
             int kept = 0;
             for (int what = 2; what <= 6; what++) {
                 kept += mill.variety(variety, what);

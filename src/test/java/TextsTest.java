@@ -30,16 +30,15 @@ final class TextsTest extends Checks {
     }
 
     /** The first error is behind the bar, or there is none. */
-    private static void dueError(OliveMill mill, String text) {
+    private static void dueError(String text) {
+        OliveMill mill = new OliveMill();
         int error = text.indexOf('|');
         type(mill, text.replace("|", ""));
         due("firstError() of " + text, mill.firstError(), error < 0 ? text.length() : error);
         due("firstError() of " + text + " again", mill.firstError(), error < 0 ? text.length() : error);
-        mill.clearBuffer();
     }
 
     private static void promise15() {
-        OliveMill mill = new OliveMill();
         String[] texts = {"", "0", "7", "|8", "|a", "|;", "|/", "0a", "7e", "0|f", "0|A", "0|0", "0|`", "0|;",
             "0a1", "0a|/", "0a|0", "0a|;", "0a|a", "0a1/", "0a1|;", "0a1|*", "0a1|a", "0a1/5", "0a1/|;", "0a1/|*",
             "0a1/|/", "0a1/5;", "0a1/5;0", "0a1/5;|;", "0a1/5|/", "0a1/5|a", "0a1/5*", "0a1/5*|;", "0a1/5*|*",
@@ -47,7 +46,7 @@ final class TextsTest extends Checks {
             "0a1/5*500;7e2000/50*1500;3c7/0", "0a1/5;0a1/5;0a1/5;0a1/5;0a1/5;0a1/5;0a1/5;0a1/5;0a1/5;0a1/5",
             "0a1/5|~~~", "|!0a1/5", "0a1/5;|8a1/5", "0a1/5*700;1b200|1/5"};
         for (String text : texts) {
-            dueError(mill, text);
+            dueError(text);
         }
     }
 
@@ -56,7 +55,6 @@ final class TextsTest extends Checks {
         String[] before = {"0a", "0a1/", "0a1/5*"};
         int[] least = {1, 0, 500};
         int[] most = {2000, 50, 1500};
-        OliveMill mill = new OliveMill();
         for (int kind = 0; kind < before.length; kind++) {
             for (int number = 0; number < 1000; number++) {
                 String digits = Integer.toString(number * 23 % 21001);
@@ -64,9 +62,9 @@ final class TextsTest extends Checks {
                 while (good < digits.length() && begins(digits.substring(0, good + 1), least[kind], most[kind])) {
                     good++;
                 }
+                OliveMill mill = new OliveMill();
                 type(mill, before[kind] + digits);
                 due("firstError() of " + before[kind] + digits, mill.firstError(), before[kind].length() + good);
-                mill.clearBuffer();
             }
         }
         String[] texts = {"0a2000", "0a200|1", "0a201|0", "0a21", "0a999", "0a999|9", "0a|01", "0a1999", "0a2000|0",
@@ -75,7 +73,7 @@ final class TextsTest extends Checks {
             "0a1/5*1500", "0a1/5*150|1", "0a1/5*15|1", "0a1/5*1|6", "0a1/5*999", "0a1/5*999|9", "0a1/5*100|;",
             "0a1/5*10|;"};
         for (String text : texts) {
-            dueError(mill, text);
+            dueError(text);
         }
     }
 

@@ -20,21 +20,6 @@ final class UndoTest extends Checks {
         return mill;
     }
 
-    private static void undoes(OliveMill mill, String what, Call call) {
-        boolean full = mill.count(12) == 6;
-        if (full) {
-            // The oldest state is dropped now, so that the digests of before and after are of like numbers.
-            mill.clean();
-            mill.undo();
-        }
-        int saved = mill.count(12);
-        long before = mill.digest();
-        call.answer();
-        due("saved states after " + what, mill.count(12), saved + 1);
-        due("undo of " + what, mill.undo(), saved);
-        due("digest after undo of " + what, mill.digest(), before);
-    }
-
     private static void eachUndoableMethod() {
         OliveMill mill = pressedMill();
         undoes(mill, "addGrower", mill::addGrower);
