@@ -6,6 +6,7 @@ final class NumberBounds extends Boundaries {
         promise22();
         promise22Residue();
         promise22Full();
+        promise22AllPressed();
         promise22Refusals();
         promise31();
         promise31Edges();
@@ -172,6 +173,40 @@ final class NumberBounds extends Boundaries {
             mill.addLot(7, 0, 1, 0, 1000);
         }
         dueCounts("all that there can be", mill, 8, 40, 34, 6, -1, 0, 0, 0, 600, 600, 400, 0, 6);
+    }
+
+    /** With all rows full, so that none may run into another. */
+    private static void promise22AllPressed() {
+        says(22, "8: oil in tanks; 9: accounts, together; 10: oil in tanks of the grade 0");
+        OliveMill mill = plainMillWith(8, 2000, 2000, 2000, 2000, 2000, 2000);
+        for (int lot = 0; lot < 40; lot++) {
+            mill.addLot(lot % 8, lot % 5, 100, lot == 39 ? 50 : 0, 1000);
+            mill.press(lot % 6, true);
+        }
+        dueCounts("40 lots of 100, 7 of them in the bad tank", mill, 8, 40, 0, 6, -1, 0, 0, 0, 4000, 4000, 3300, 0, 6);
+        mill.set(3, 50);
+        // 10 times 200 and 20 times 100, of a variety in a tank
+        due("lost in a day", mill.pass(1), 200);
+        dueCounts("a day later", mill, 8, 40, 0, 6, -1, 0, 0, 1, 3800, 4000, 3135, 0, 6);
+        due("the other 3800, but the last 19 of each", mill.pass(100), 3800 - 30 * 19);
+        for (int variety = 0; variety < 5; variety++) {
+            dueVariety("after all", mill, variety, 100, 800, 6 * 19, 0, 0, 800 - 6 * 19, 0, 0);
+        }
+        for (int grower = 0; grower < 8; grower++) {
+            dueGrower("after all", mill, grower, 500, 5, 0, 0, 0, 0);
+        }
+        for (int lot = 0; lot < 40; lot += 13) {
+            dueLot("after all", mill, lot, lot % 8, lot % 5, 100, lot == 39 ? 50 : 0, lot == 39 ? 2 : 0, 1, 100, 100, -1,
+                    lot % 6, 2);
+        }
+        for (int tank = 0; tank < 6; tank++) {
+            due("the size of tank " + tank, mill.tank(tank, 0), 2000);
+            dueTank("after all", mill, tank, tank == 3 ? 2 : 0, 19, 19, 19, 19, 19);
+        }
+        int[] settings = {0, 1000, 600, 50, 20, 0, 100};
+        for (int setting = 0; setting < 7; setting++) {
+            due("the setting " + setting, mill.setting(setting), settings[setting]);
+        }
     }
 
     private static void promise22Refusals() {

@@ -23,6 +23,7 @@ final class TankBounds extends Boundaries {
         promise27();
         promise29();
         promise29WithoutOil();
+        promise29OfSix();
         promise30();
     }
 
@@ -591,6 +592,10 @@ final class TankBounds extends Boundaries {
         due("200 days", slow.oilIn(0, 200), 1000);
 
         says(27, "Returns the oil.");
+        OliveMill bad = plainMillWith(1, 1000);
+        fill(bad, 0, 4, 10, 50);
+        due("of a tank of the grade 2, in no day", bad.oilIn(0, 0), 10);
+        due("in 200 days", bad.oilIn(0, 200), 10);
         due("as it is before", slow.oilIn(0, 100), 1100);
         slow.pass(100);
         due("as it is then", slow.tank(0, 1), 1100);
@@ -671,6 +676,34 @@ final class TankBounds extends Boundaries {
         way2.undo();
         way2.addLot(0, 1, 5, 0, 1000);
         due("it pours the residue alone", way2.bestTank(), 0);
+        OliveMill none = plainMillWith(1);
+        none.set(0, 50);
+        none.addLot(0, 0, 50, 0, 1000);
+        due("it pours nothing, but there is no tank", none.bestTank(), -1);
+        none.addTank(300);
+        none.addTank(200);
+        due("it pours nothing, and none is full", none.bestTank(), 1);
+    }
+
+    private static void promise29OfSix() {
+        says(29, "NONE if there is none.");
+        OliveMill mill = plainMillWith(1, 100, 100, 100, 100, 100, 100);
+        for (int tank = 0; tank < 6; tank++) {
+            fill(mill, tank, 2, 99, 0);
+        }
+        mill.setYield(0, 400);
+        mill.setYield(1, 50);
+        mill.addLot(0, 2, 1, 0, 1000);
+        due("1 has room in each of six tanks", mill.bestTank(), 0);
+        mill.undo();
+        mill.addLot(0, 2, 2, 0, 1000);
+        due("2 have room in none of them", mill.bestTank(), -1);
+        mill.draw(0, 5, 1);
+        due("in the sixth alone", mill.bestTank(), 5);
+        mill.undo();
+        mill.undo();
+        mill.addLot(0, 2, 1, 50, 1000);
+        due("none of them has the same grade", mill.bestTank(), -1);
     }
 
     private static void dueShare(String when, OliveMill mill, double want) {
